@@ -470,6 +470,11 @@ public final class PromisesTest {
         x.due(0, 60);
         x.issues(0, 6);
         due("one, then SHORT", x.lasts(0), 1);
+        GritIsIssued girl = told("g009;pg003;i001;");
+        // DAYS 3, 11, .. 99
+        due("DAY 99 is within", girl.lasts(0), 13);
+        girl.due(0, 4);
+        due("DAY 100 is not", girl.lasts(0), 12);
     }
 
     private static void lacks() {
@@ -498,6 +503,9 @@ public final class PromisesTest {
         x.due(3, 0);
         due("next(0)", x.next(0), 1);
         due("next(1)", x.next(1), 60);
+        x.due(0, 1);
+        due("next(0)", x.next(0), 0);
+        due("next(1)", x.next(1), 1);
     }
 
     private static void enough() {
@@ -547,6 +555,10 @@ public final class PromisesTest {
         due("serve(0)", y.serve(0), 0);
         due("serve(1)", y.serve(1), 0);
         due("serve(2)", y.serve(2), 4);
+        y.fills(1);
+        due("just enough", y.serve(1), 1);
+        due("how many", y.serve(0), 1);
+        due("left", y.serve(2), 0);
     }
 
     private static void best() {
@@ -628,6 +640,7 @@ public final class PromisesTest {
         GritIsIssued exact = told("pm901;pm901;pm901;pm901;pm901;ph601;pm027;");
         // 980 and 14 and 5
         due("999", exact.stock(27), 999);
+        due("the first is refused", exact.stock(28), -9);
         exact.turn(6, 1, 1);
         due("1000", exact.stock(27), -9);
     }
@@ -659,6 +672,14 @@ public final class PromisesTest {
         x.issues(0, 6);
         due("lacks nothing: HAS it", x.borrow(0, 30), -9);
         due("nothing is had", x.person(1, 2), 10);
+        GritIsIssued y = told("g030;pc500;pc501;i010;i105;");
+        due("of the first, a single one", y.borrow(1, 1), 0);
+        y.due(1, 30);
+        due("on the last DAY", y.borrow(1, 30), 0);
+        due("behind it", y.borrow(1, 29), -9);
+        GritIsIssued z = told("g030;pc501;pc501;i006;i105;");
+        due("what one gains the other loses", z.borrow(1, 30), -9);
+        due("both of none", told("pc501;pc501;").borrow(1, 30), -9);
     }
 
     private static void sweep() {
@@ -703,6 +724,12 @@ public final class PromisesTest {
         due("STORE stays", x.count(2), 90);
         GritIsIssued y = told("g099;pm001;i099;");
         due("99 at most", y.grain(30), -9);
+        GritIsIssued z = told("g099;pc501;i007;");
+        due("he gets through as else", z.grain(1), -9);
+        due("he gets through as else", z.grain(7), -9);
+        due("once more", z.grain(8), -9);
+        z.issues(0, 1);
+        due("once more", z.grain(8), 0);
     }
 
     private static void shares() {
@@ -715,6 +742,9 @@ public final class PromisesTest {
         tell(x, "pc000;pc000;pc000;");
         due("each", x.shares(0), 15);
         due("over", x.shares(1), 2);
+        GritIsIssued one = told("g047;pc000;");
+        due("one alone", one.shares(0), 47);
+        due("one alone", one.shares(1), 0);
     }
 
     private static void richest() {
@@ -780,6 +810,12 @@ public final class PromisesTest {
         y.turn(0, 1, 9);
         due("14 cost 1", y.two(0, 1, 1), 0);
         due("nothing is issued", y.count(2), 99);
+        GritIsIssued just = told("g006;pc501;pc501;");
+        due("just for the first", just.two(0, 1, 1), 10);
+        just.due(1, 0);
+        due("just for the first", just.two(1, 0, 1), 1);
+        GritIsIssued leaves = told("g020;ph901;pc501;");
+        due("the first leaves it", leaves.two(0, 1, 1), 1);
     }
 
     private static void slip() {
@@ -815,6 +851,9 @@ public final class PromisesTest {
         due("above now", x.slip(1, 1, 2, 0, 0), 1);
         due("no matter", x.slip(2, 7, 2, 1, 0), 0);
         due("HAS stays", x.person(0, 2), 1);
+        GritIsIssued none = told("pt001;");
+        due("0 at least", none.slip(0, 1, 2, 1, 0), 1);
+        due("0 at least", none.slip(0, 1, 2, 1, 1), 1);
     }
 
     private static void mean() {
@@ -833,6 +872,9 @@ public final class PromisesTest {
         tell(x, "i302;");
         due("2 by 1", x.mean(0), 2);
         due("2 by 1", x.mean(1), 1);
+        GritIsIssued one = told("g099;pc000;i005;");
+        due("of one", one.mean(0), 5);
+        due("of one", one.mean(1), 1);
     }
 
     private static void whatIs() {
@@ -909,6 +951,9 @@ public final class PromisesTest {
         due("nobody there", x.judge(), 3);
         x.row(4);
         due("the first", x.judge(), 0);
+        x.row(4);
+        x.row(1);
+        due("the first of two", x.judge(), 0);
     }
 
     private static void clear() {
@@ -945,6 +990,10 @@ public final class PromisesTest {
         due("more than now", x.lots(1, 1, 1), 0);
         due("more than now", x.lots(1, 1, 0), 2);
         due("a seed below 0", x.lots(3, Integer.MIN_VALUE, 0) + x.lots(3, Integer.MIN_VALUE, 1), 6);
+        GritIsIssued girl = told("g001;pg001;i001;d01;u020;");
+        due("the 20th DAY", girl.lots(1, 0, 0), 1);
+        girl.due(0, 21);
+        due("the 21st", girl.lots(1, 0, 0), 0);
     }
 
     private static void imageAndOn() {
@@ -992,6 +1041,23 @@ public final class PromisesTest {
         due("PEOPLE", early.count(0), 0);
         tell(early, "pc000;");
         due("one who comes then is new", early.person(0, 5), 0);
+        GritIsIssued gone = told("g099;");
+        gone.image();
+        tell(gone, "pm104;i030;d01;");
+        gone.on();
+        due("nobody HAS", gone.count(4), 0);
+        due("nobody's matter", gone.count(5), 0);
+        due("nobody lacks", gone.lacks(), 0);
+        due("nobody is next", gone.next(0), -9);
+        due("nobody is SHORT", gone.first(0), -9);
+        due("nobody gets through", gone.allThen(9, 0), 0);
+        due("nobody WEARS", gone.allThen(9, 2), 0);
+        due("nobody sweeps", gone.sweep(9, 0), -9);
+        due("nobody is richest", gone.richest(), -9);
+        due("nobody is best", gone.best(30, 0), 0);
+        due("nobody runs", gone.run(0), -9);
+        due("nobody's grain", gone.grain(9), -9);
+        due("nobody's springs", gone.lots(1, 1, 0), 0);
     }
 
     private static void count() {
