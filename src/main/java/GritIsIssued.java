@@ -260,13 +260,13 @@ public final class GritIsIssued {
         int had = now.at(person).has;
         int lack = now.at(person).lacking();
         if (lack == 0 || had + lack > GRAINS_MOST) return NONE;
-        int gain = thought(person, had + lack, n).passed - thought(person, had, n).passed;
+        int gain = throughMore(person, had + lack, n) - throughMore(person, had, n);
         int whom = NONE;
         int most = 0;
         for (int p = 0; p < now.people; p++) {
             int has = now.at(p).has;
             if (p == person || has < lack) continue;
-            int more = gain + thought(p, has - lack, n).passed - thought(p, has, n).passed;
+            int more = gain + throughMore(p, has - lack, n) - throughMore(p, has, n);
             if (more > most) {
                 most = more;
                 whom = p;
@@ -283,7 +283,7 @@ public final class GritIsIssued {
         for (int p = 0; p < now.people; p++) {
             int has = now.at(p).has;
             if (has == 0) continue;
-            int more = thought(p, 0, n).missed - thought(p, has, n).missed;
+            int more = shortMore(p, 0, n) - shortMore(p, has, n);
             if (who < 0 || more < fewest) {
                 who = p;
                 fewest = more;
@@ -300,7 +300,7 @@ public final class GritIsIssued {
         for (int p = 0; p < now.people; p++) {
             int has = now.at(p).has;
             if (has >= GRAINS_MOST) continue;
-            int more = thought(p, has + 1, n).passed - thought(p, has, n).passed;
+            int more = throughMore(p, has + 1, n) - throughMore(p, has, n);
             if (more > most) {
                 who = p;
                 most = more;
@@ -537,6 +537,15 @@ public final class GritIsIssued {
         return trial;
     }
 
+    // THROUGH and SHORT stand still at 999 in thought too, so the numbers are compared and not the matters counted
+    private int throughMore(int person, int has, int n) {
+        return thought(person, has, n).through - now.at(person).through;
+    }
+
+    private int shortMore(int person, int has, int n) {
+        return thought(person, has, n).shorts - now.at(person).shorts;
+    }
+
     private int throughLosing(int person, int n, int lost) {
         Person one = now.at(person);
         trial.takeFrom(one);
@@ -555,13 +564,13 @@ public final class GritIsIssued {
         return true;
     }
 
-    /** How often each gets through in n DAYS, as he stands and with all he lacks. */
+    /** How much each is THROUGH in n DAYS, as he stands and with all he lacks. */
     private void weigh(int n) {
         for (int p = 0; p < now.people && p < PEOPLE_MOST; p++) {
             int has = now.at(p).has;
             int lack = now.at(p).lacking();
-            throughBare[p] = thought(p, has, n).passed;
-            throughGiven[p] = thought(p, has + lack, n).passed;
+            throughBare[p] = throughMore(p, has, n);
+            throughGiven[p] = throughMore(p, has + lack, n);
         }
     }
 
@@ -673,7 +682,7 @@ public final class GritIsIssued {
         int due;
         int through;
         int shorts;
-        // since the last copy, and without an upper end, as THROUGH and SHORT stand still at 999
+        // the matters since the last copy, for what asks for them: THROUGH and SHORT stand still at 999
         int passed;
         int missed;
 

@@ -95,14 +95,6 @@ public final class ModelTest {
             people.get(p).has += lack;
         }
 
-        int throughEvents() {
-            return people.stream().mapToInt(o -> o.throughEvents).sum();
-        }
-
-        int shortEvents() {
-            return people.stream().mapToInt(o -> o.shortEvents).sum();
-        }
-
         int through() {
             return people.stream().mapToInt(o -> o.through).sum();
         }
@@ -282,7 +274,7 @@ public final class ModelTest {
                     for (int set = 0; set < 1 << size; set++) {
                         World w = world.copy();
                         for (int p = 0; p < size; p++) if ((set & 1 << p) != 0) w.give(p);
-                        int t = w.on(a[0]).throughEvents();
+                        int t = w.on(a[0]).through() - world.through();
                         if (t > most) {
                             most = t;
                             which = set;
@@ -314,8 +306,8 @@ public final class ModelTest {
                         w.people.get(a[0]).has += lack;
                         if (w.people.get(a[0]).has > 99) continue;
                         w = w.on(a[1]);
-                        int more = w.people.get(p).throughEvents + w.people.get(a[0]).throughEvents
-                            - without.people.get(p).throughEvents - without.people.get(a[0]).throughEvents;
+                        int more = w.people.get(p).through + w.people.get(a[0]).through
+                            - without.people.get(p).through - without.people.get(a[0]).through;
                         if (more > most) {
                             most = more;
                             whom = p;
@@ -332,7 +324,7 @@ public final class ModelTest {
                         if (people.get(p).has == 0) continue;
                         World w = world.copy();
                         handIn(w, p);
-                        int more = w.on(a[0]).shortEvents() - world.on(a[0]).shortEvents();
+                        int more = w.on(a[0]).shorts() - world.on(a[0]).shorts();
                         if (more < fewest) {
                             fewest = more;
                             who = p;
@@ -343,11 +335,11 @@ public final class ModelTest {
                 case "grain": {
                     if (a[0] < 1) return no(-4);
                     if (a[0] > 30) return no(-6);
-                    int who = -9, most = world.on(a[0]).throughEvents();
+                    int who = -9, most = world.on(a[0]).through();
                     for (int p = 0; p < size; p++) {
                         World w = world.copy();
                         w.people.get(p).has = Math.min(99, w.people.get(p).has + 1);
-                        int t = w.on(a[0]).throughEvents();
+                        int t = w.on(a[0]).through();
                         if (t > most) {
                             most = t;
                             who = p;
@@ -476,7 +468,7 @@ public final class ModelTest {
             if (first == 1) w.give(a[0]);
             if (other == 1) w.give(a[1]);
             int issued = w.people.get(a[whose]).has - had[whose];
-            return w.on(a[2]).people.get(a[whose]).throughEvents - issued / 10;
+            return w.on(a[2]).people.get(a[whose]).through - world.people.get(a[whose]).through - issued / 10;
         }
 
         long two(int[] a) {
@@ -582,6 +574,8 @@ public final class ModelTest {
         "first 1", "lasts 1", "lacks 0", "next 1", "enough 2", "serve 1", "best 2", "run 1", "stock 1", "borrow 2", "sweep 2", "grain 1",
         "shares 1", "richest 0", "trusted 1", "worth 0", "two 3", "slip 5", "mean 1", "whatIs 2", "row 1", "judge 0", "clear 0", "lots 3",
         "image 0", "on 0", "count 1"};
+    private static final String[] IN_THOUGHT = {"personThen 3", "allThen 2", "first 1", "lasts 1", "enough 2", "best 2", "borrow 2", "sweep 2",
+        "grain 1", "two 3", "slip 5", "lots 3"};
     private static final int[] EDGES = {-1, 0, 1, 2, 5, 6, 7, 8, 9, 10, 15, 16, 20, 21, 29, 30, 31, 59, 60, 61, 98, 99, 100, 255, 256,
         Integer.MIN_VALUE, Integer.MAX_VALUE};
     private static int wrong = 0;
@@ -754,16 +748,24 @@ public final class ModelTest {
         for (int p = 0; p < 8; p++) for (int what = 0; what < 8; what++) both(number, x, model, "person", p, what);
     }
 
-    /** A run that begins near the last DAY, with SHORT near its end. */
+    /** A run that begins near the last DAY: 0 got through on nearly each, 1 seldom, 2 and 3 now and then. */
     private static void lateRun(int number) {
         Random r = new Random(number);
         GritIsIssued x = new GritIsIssued();
         Model model = new Model();
-        tell(number, x, model, "pm001;pc501;pt001;g900;i120;");
-        for (int i = 0; i < 16; i++) both(number, x, model, "days", 60);
-        both(number, x, model, "days", 10 + r.nextInt(30));
-        for (int calls = 0; calls < 200; calls++) {
-            String[] call = CALLS[r.nextInt(CALLS.length)].split(" ");
+        tell(number, x, model, "pm001;pm001;pm001;pc501;g999;i099;");
+        for (int round = 0; round < 20; round++) {
+            both(number, x, model, "days", 48);
+            both(number, x, model, "fills", 96);
+            both(number, x, model, "issues", 0, 96);
+            if (number % 2 == 0 || round > 17) both(number, x, model, "issues", 2, r.nextInt(30));
+            both(number, x, model, "issues", 3, r.nextInt(20));
+        }
+        both(number, x, model, "days", 20 + r.nextInt(20));
+        both(number, x, model, "image");
+        for (int calls = 0; calls < 240; calls++) {
+            String[] of = r.nextBoolean() ? CALLS : IN_THOUGHT;
+            String[] call = of[r.nextInt(of.length)].split(" ");
             int[] a = new int[Integer.parseInt(call[1])];
             for (int i = 0; i < a.length; i++) a[i] = value(r, call[0], i, model);
             both(number, x, model, call[0], a);
@@ -772,7 +774,7 @@ public final class ModelTest {
 
     public static void main(String[] args) {
         for (int i = 0; i < 500; i++) run(i);
-        for (int i = 500; i < 530; i++) lateRun(i);
+        for (int i = 500; i < 600; i++) lateRun(i);
         System.out.println(compared - wrong + " passed, " + wrong + " failed");
         if (wrong != 0) System.exit(1);
     }

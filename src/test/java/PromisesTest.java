@@ -46,6 +46,9 @@ public final class PromisesTest {
         days();
         dayOfEachKind();
         endsOfNumbers();
+        greatestThrough();
+        greatestThroughOfTwo();
+        greatestShort();
         personThen();
         allThen();
         first();
@@ -380,6 +383,119 @@ public final class PromisesTest {
         promise = 6;
         due("STORE", worn.returns(1), 999);
         due("WORN 9999 at most", worn.count(3), 9999);
+    }
+
+    /** Person 0, a MOTHER of FIGURE 0 (NEEDS 5, WEARS 2), got through on each DAY; the STORE has none. */
+    private static GritIsIssued mother(String others, int days) {
+        GritIsIssued x = told("pm001;" + others + "g099;i099;");
+        for (int left = days; left > 0; left -= 48) {
+            x.days(Math.min(48, left));
+            if (left <= 48) continue;
+            x.fills(96);
+            x.issues(0, 96);
+        }
+        return x;
+    }
+
+    /** THROUGH stands still at 999 in thought too; the matters themselves go on. */
+    private static void greatestThrough() {
+        GritIsIssued x = mother("pm001;", 998);
+        promise = 30;
+        due("THROUGH 998: 1 above now", x.slip(0, 2, 2, 1, 0), 1);
+        due("THROUGH 998: not 2 above", x.slip(0, 2, 2, 2, 0), 0);
+        promise = 36;
+        // z 0 draws 23 and 27: 0 gets through on 10 DAYS, 1 on 12; he is SHORT 998 now
+        due("THROUGH more", x.lots(1, 0, 0), 1 + 12);
+        due("SHORT more", x.lots(1, 0, 1), 10 + 1);
+        promise = 19;
+        // 0 HAS 23, with which he would get through on 10 DAYS
+        due("THROUGH 998: 1 more at most", x.best(30, 0), 1);
+        due("none has a use of the STORE", x.best(30, 1), 0);
+        x.fills(5);
+        due("of 0 and of 1 once", x.best(30, 0), 2);
+        due("1 alone lacks something", x.best(30, 1), 2);
+        x.returns(0);
+        due("THROUGH 998: each once", x.best(1, 0), 2);
+        due("both", x.best(1, 1), 3);
+        promise = 24;
+        x.issues(0, 4);
+        due("THROUGH 998: a grain does it", x.grain(1), 0);
+        x.issues(0, 19);
+        x.days(1);
+        due("THROUGH 999: none more", x.grain(30), -9);
+        promise = 14;
+        due("matters go on: 21, 19, .. 5", x.lasts(0), 9);
+        promise = 19;
+        due("THROUGH 999: 1 alone", x.best(30, 0), 1);
+        due("THROUGH 999: 1 alone", x.best(30, 1), 2);
+        x.returns(0);
+        due("0's name does nothing", x.best(30, 1), 2);
+        due("0's name does nothing", x.best(30, 0), 1);
+        promise = 24;
+        x.issues(0, 4);
+        due("THROUGH 999: none more", x.grain(1), -9);
+        x.issues(1, 4);
+        due("only 1 is more", x.grain(1), 1);
+    }
+
+    private static void greatestThroughOfTwo() {
+        GritIsIssued x = mother("pm001;", 998);
+        x.returns(0);
+        promise = 29;
+        due("THROUGH 998: both", x.two(0, 1, 1), 11);
+        promise = 22;
+        x.issues(1, 5);
+        x.due(1, 0);
+        due("THROUGH 998: once more", x.borrow(0, 30), 1);
+        x.returns(1);
+        x.due(1, 1);
+        x.issues(0, 23);
+        x.days(1);
+        promise = 29;
+        x.returns(0);
+        due("THROUGH 999: the other alone", x.two(0, 1, 1), 1);
+        due("THROUGH 999: the first alone", x.two(1, 0, 1), 10);
+        x.due(1, 0);
+        due("neither", x.two(0, 1, 1), 0);
+        due("neither", x.two(1, 0, 30), 0);
+        promise = 22;
+        x.issues(1, 5);
+        due("THROUGH 999: none more", x.borrow(0, 30), -9);
+        x.returns(1);
+        x.issues(0, 5);
+        x.due(1, 1);
+        due("he who is THROUGH 999 loses nothing", x.borrow(1, 1), 0);
+    }
+
+    /** SHORT stands still at 999 in thought too; whether one is SHORT is asked of the matters. */
+    private static void greatestShort() {
+        GritIsIssued x = told("pc000;pm001;");
+        for (int i = 0; i < 16; i++) x.days(60);
+        x.days(38);
+        x.fills(99);
+        x.issues(1, 5);
+        promise = 23;
+        due("SHORT 998: on the next DAY", x.sweep(1, 1), 1);
+        due("SHORT 998: on the DAY behind that anyhow", x.sweep(30, 1), 0);
+        x.returns(1);
+        x.days(1);
+        x.issues(0, 1);
+        x.issues(1, 5);
+        x.due(0, 1);
+        due("SHORT 999: 0 would be 1 more, 1 none", x.sweep(1, 0), 1);
+        due("none more", x.sweep(1, 1), 0);
+        due("none more in 30 DAYS", x.sweep(30, 1), 0);
+        x.returns(1);
+        due("0 alone HAS any", x.sweep(1, 1), 1);
+        promise = 17;
+        due("SHORT all the same", x.enough(1, 1), 5);
+        due("SHORT all the same", x.enough(1, 3), 9);
+        promise = 14;
+        x.issues(1, 7);
+        due("till he is SHORT all the same", x.lasts(1), 2);
+        promise = 13;
+        due("who is SHORT all the same", x.first(0), 1);
+        due("when", x.first(1), 3);
     }
 
     private static void personThen() {
