@@ -427,7 +427,7 @@ public final class GritIsIssued {
             mind.takeFrom(now);
             for (int p = 0; p < mind.people; p++) {
                 seed = seed * 1664525 + 1013904223;
-                mind.at(p).has = (seed & Integer.MAX_VALUE) / 256 % 30;
+                mind.at(p).has = (seed & 0x7fffffff) / 256 % 30;
             }
             mind.daysGoBy(20);
             sum += what == 0 ? mind.allThrough() - now.allThrough() : mind.allShort() - now.allShort();
