@@ -148,6 +148,7 @@ public final class RefusalBoundaryTest {
         on();
         count();
         asking();
+        changing();
         System.out.println(right + " passed, " + wrong + " failed");
         if (wrong != 0) System.exit(1);
     }
@@ -676,15 +677,29 @@ public final class RefusalBoundaryTest {
         due("PEOPLE", full.count(0), 0);
         due("nobody is 0", full.person(0, 0), -1);
         due("room for eight", tell(full, "pm100;pm100;pm100;pm100;pm100;pm100;pm100;pm100;g999;"), 9);
-        nobodyAgain();
+        // one who HAS many, few, none, one too few
+        nobodyAgain("pm001;i030;");
+        nobodyAgain("pm001;i007;");
+        nobodyAgain("pm001;");
+        nobodyAgain("pm001;i006;");
+        GritIsIssued x = told("pm001;g099;");
+        x.image();
+        tell(x, "pc000;i109;");
+        due("of him who came", x.borrow(0, 1), 1);
+        x.on();
+        due("of nobody", x.borrow(0, 1), -9);
+        due("he is nobody", x.two(0, 1, 1), -1);
     }
 
     /** Who came behind the image is in no answer once it is as then. */
-    private static void nobodyAgain() {
+    private static void nobodyAgain(String who) {
         GritIsIssued x = told("g099;");
         x.image();
-        tell(x, "pm001;pm001;i030;i103;");
-        due("two are there", x.best(30, 0), 13 + 1);
+        tell(x, who);
+        x.days(1);
+        due("he is there", x.personThen(0, 1, 2) + x.personThen(0, 1, 3), 2);
+        x.best(30, 0);
+        x.allThen(0, 0);
         x.on();
         due("best", x.best(30, 0), 0);
         due("best", x.best(30, 1), 0);
@@ -704,10 +719,15 @@ public final class RefusalBoundaryTest {
         due("lots", x.lots(1, 0, 0) + x.lots(1, 0, 1), 0);
         due("all HAS", x.count(4), 0);
         due("a matter", x.count(5), 0);
+        due("days", x.days(1), 0);
+        due("WORN", x.count(3), 0);
         x.row(1);
         due("judge", x.judge(), 0);
+        x.on();
         tell(x, "pm001;");
         due("who comes then HAS none", x.person(0, 2), 0);
+        due("he got through nothing", x.person(0, 4), 0);
+        due("he was not SHORT", x.person(0, 5), 0);
         due("borrow of nobody", x.borrow(0, 30), -9);
     }
 
@@ -767,5 +787,46 @@ public final class RefusalBoundaryTest {
         changesNothing("mean", y -> y.mean(0));
         changesNothing("whatIs", y -> y.whatIs(1, 1));
         changesNothing("lots", y -> y.lots(20, 5, 0));
+    }
+
+    /** All kinds of numbers of it have other values than at first; 0 is a CLERK of FIGURE 5, 1 a MOTHER of FIGURE 2. */
+    private static GritIsIssued lived() {
+        GritIsIssued x = told("pc501;pm202;g099;i026;i108;");
+        x.days(15);
+        x.row(7);
+        spell(x, "g00");
+        return x;
+    }
+
+    /** The numbers at these places of what is seen become these, all else stays. */
+    private static void changes(String call, Call asked, int... placesAndNumbers) {
+        GritIsIssued x = lived();
+        String counted = refusals(x);
+        String[] before = seen(x).split(" ");
+        asked.of(x);
+        for (int i = 0; i < placesAndNumbers.length; i += 2) before[placesAndNumbers[i]] = "" + placesAndNumbers[i + 1];
+        same(call + " changes nothing else", seen(x), String.join(" ", before) + " ");
+        same(call + " is no REFUSAL", refusals(x), counted);
+    }
+
+    private static void changing() {
+        promise("what changes something changes nothing else");
+        // the places: PEOPLE, DAY, STORE, WORN, all HAS, matters, ROW, letters; KIND, FIGURE, HAS, DUE, THROUGH, SHORT, NEEDS, LACKS of each
+        same("as it is", seen(lived()), "2 15 65 12 22 2 1 3 " + "0 5 17 7 3 0 6 0 " + "1 2 5 1 1 13 7 2 ");
+        changes("letter", x -> x.letter(0), 7, 4);
+        changes("counter with a FAULT", x -> x.counter(), 7, 0);
+        changes("counter", x -> tell(x, "5;"), 7, 0, 2, 70);
+        changes("issues", x -> x.issues(1, 1), 2, 64, 4, 23, 18, 6, 23, 1);
+        changes("returns", x -> x.returns(1), 2, 70, 4, 17, 18, 0, 23, 7);
+        changes("due", x -> x.due(1, 5), 19, 5);
+        changes("due, none", x -> x.due(1, 0), 19, 0, 5, 1, 23, 0);
+        changes("fills", x -> x.fills(9), 2, 74);
+        changes("turn", x -> x.turn(0, 2, 9), 8, 2, 9, 9, 14, 20, 15, 3);
+        changes("a DAY", x -> x.days(1), 1, 16, 11, 6, 21, 14);
+        changes("row", x -> x.row(99), 6, 2);
+        changes("judge", x -> x.judge(), 6, 0);
+        changes("clear", x -> x.clear(), 6, 0);
+        changes("image", x -> x.image());
+        changes("image and on", x -> x.image() + x.on());
     }
 }
