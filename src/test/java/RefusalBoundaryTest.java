@@ -149,6 +149,7 @@ public final class RefusalBoundaryTest {
         count();
         asking();
         changing();
+        lastCall();
         System.out.println(right + " passed, " + wrong + " failed");
         if (wrong != 0) System.exit(1);
     }
@@ -828,5 +829,20 @@ public final class RefusalBoundaryTest {
         changes("clear", x -> x.clear(), 6, 0);
         changes("image", x -> x.image());
         changes("image and on", x -> x.image() + x.on());
+    }
+
+    private static void lastCall() {
+        promise("at most 512 calls");
+        GritIsIssued refused = new GritIsIssued();
+        for (int i = 1; i <= 511; i++) refused.returns(0);
+        due("the 512th tells 511 REFUSALS", refused.count(11), 511);
+        GritIsIssued filled = new GritIsIssued();
+        for (int i = 1; i <= 511; i++) filled.fills(1);
+        due("the 512th tells 511 grains", filled.count(2), 511);
+        GritIsIssued told = new GritIsIssued();
+        // 102 COUNTERS of one DAY take 510 calls
+        for (int i = 1; i <= 102; i++) tell(told, "d01;");
+        told.letter('d');
+        due("the 512th tells 102 DAYS", told.count(1), 102);
     }
 }
