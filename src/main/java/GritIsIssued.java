@@ -616,6 +616,7 @@ public final class GritIsIssued {
     }
 
     private static long leastTerms(long above, long below, int part) {
+        // 0 is told as 0 by 1: part 0 is 0, part 1 is 1
         if (above == 0 || below == 0) return part;
         long divisor = above;
         long rest = below;

@@ -29,6 +29,8 @@ public final class FaceTest {
         face();
         members(GritIsIssued.class);
         words();
+        library();
+        lengths();
         System.out.println(right + " passed, " + wrong + " failed");
         if (wrong != 0) System.exit(1);
     }
@@ -80,12 +82,21 @@ public final class FaceTest {
         }
     }
 
+    private static String source() throws Exception {
+        return new String(Files.readAllBytes(Path.of(SOURCE)), StandardCharsets.ISO_8859_1);
+    }
+
+    /** The source without comments and texts. */
+    private static String code() throws Exception {
+        return source().replaceAll("(?s)/\\*.*?\\*/", " ").replaceAll("//[^\n]*", " ").replaceAll("'.'", "0").replaceAll("\"[^\"]*\"", "0");
+    }
+
     private static void words() throws Exception {
-        String source = new String(Files.readAllBytes(Path.of(SOURCE)), StandardCharsets.ISO_8859_1);
+        String source = source();
         boolean plain = true;
         for (int i = 0; i < source.length(); i++) plain &= source.charAt(i) < 128;
         so("signs below 128", plain);
-        String code = source.replaceAll("(?s)/\\*.*?\\*/", " ").replaceAll("//[^\n]*", " ").replaceAll("'.'", "0").replaceAll("\"[^\"]*\"", "0");
+        String code = code();
         String[] never = {"import", "package", "throw", "throws", "try", "catch", "finally", "synchronized", "assert", "goto", "native", "volatile",
             "instanceof", "Thread", "System", "Object", "Exception", "var", "equals", "hashCode", "toString", "protected", "double", "float"};
         for (String word : never) so("no " + word, !Pattern.compile("\\b" + word + "\\b").matcher(code).find());
@@ -98,5 +109,40 @@ public final class FaceTest {
             boolean withTheObject = line.contains("private final ") || line.contains("room[p] = new Person();");
             so("made with the object: " + line.trim(), withTheObject);
         }
+    }
+
+    /** Of the library nothing is named but what LANGUAGE.md's rule 4 lists. */
+    private static void library() throws Exception {
+        Set<String> own = new TreeSet<>(Set.of("GritIsIssued", "String", "Math", "Integer"));
+        for (Class<?> inside : GritIsIssued.class.getDeclaredClasses()) own.add(inside.getSimpleName());
+        Matcher types = Pattern.compile("\\b[A-Z]\\w*[a-z]\\w*").matcher(code());
+        while (types.find()) so(types.group() + " is one's own or listed", own.contains(types.group()));
+        Set<String> functions = Set.of("Math.max", "Math.min", "Integer.bitCount");
+        Matcher calls = Pattern.compile("\\b(Math|Integer)\\s*\\.\\s*\\w+").matcher(code());
+        while (calls.find()) so(calls.group() + " is listed", functions.contains(calls.group()));
+        Set<String> called = new TreeSet<>(Set.of("length", "charAt", "isEmpty", "indexOf", "max", "min", "bitCount"));
+        for (Class<?> inside : GritIsIssued.class.getDeclaredClasses()) {
+            for (Method method : inside.getDeclaredMethods()) called.add(method.getName());
+        }
+        Matcher names = Pattern.compile("\\.\\s*(\\w+)\\(").matcher(code());
+        while (names.find()) so(names.group(1) + " is one's own or listed", called.contains(names.group(1)));
+    }
+
+    /** Methods stay short: some sixty lines each. */
+    private static void lengths() throws Exception {
+        String[] lines = source().split("\n");
+        int methods = 0;
+        for (int i = 0; i < lines.length; i++) {
+            Matcher head = Pattern.compile("( {4}| {8})(\\w+(\\[\\])? )*\\w+\\([^()]*\\) \\{").matcher(lines[i]);
+            if (!head.matches()) continue;
+            int end = i;
+            while (end < lines.length && !lines[end].equals(head.group(1) + "}")) end++;
+            so(lines[i].trim() + " has sixty lines at most", end - i < 60);
+            methods++;
+        }
+        int constructorsWrittenOut = 2;
+        int built = GritIsIssued.class.getDeclaredMethods().length + constructorsWrittenOut;
+        for (Class<?> inside : GritIsIssued.class.getDeclaredClasses()) built += inside.getDeclaredMethods().length;
+        so("each method was looked at: " + methods + " of " + built, methods == built);
     }
 }

@@ -336,6 +336,13 @@ public final class TermsBoundaryTest {
             }
         }
         due("no letter at all", behind("", ""), -1000);
+        // that a COUNTER has 96 letters at most does not move the place
+        StringBuilder text = new StringBuilder();
+        for (int i = 0; i < 18; i++) text.append("g000;");
+        due("begun at the 91st letter", behind("", text + "pc000"), -1095);
+        due("full at the 96th", behind("", text + "pc000;"), 19);
+        due("begun at the 94th letter", behind("", text + "r0;p"), -1094);
+        due("begun at the 96th letter", behind("", text + "g000;p"), -1096);
     }
 
     private static void kindOneAheadOfKindTwo() {
